@@ -163,11 +163,8 @@ public final class VersionedTables {
         int newest = transactions.leastOpen();
         int gone = 0;
         for (int k = 0; k < TABLES; k++) {
-            Table table = tables[k];
-            if (table != null) {
-                for (int row = 0; row < table.made; row++) {
-                    gone += sweep(table.rows[row], newest);
-                }
+            if (tables[k] != null) {
+                gone += sweep(tables[k], newest);
             }
         }
         return gone;
@@ -312,17 +309,23 @@ public final class VersionedTables {
         transactions.end(t, State.BROKEN);
         int gone = 0;
         for (int k = 0; k < TABLES; k++) {
-            Table table = tables[k];
-            if (table != null) {
-                for (int row = 0; row < table.made; row++) {
-                    gone += table.rows[row].drop(t);
-                }
+            if (tables[k] != null) {
+                gone += tables[k].dropAllOf(t);
             }
         }
         return gone;
     }
 
-    private int sweep(Row row, int newest) {
+    private int sweep(Table table, int newest) {
+        int gone = 0;
+        for (int row = 0; row < table.made; row++) {
+            gone += sweepRow(table.rows[row], newest);
+        }
+        return gone;
+    }
+
+    /** What is older than the version that stays goes, if no open transaction wrote it. */
+    private int sweepRow(Row row, int newest) {
         int kept = newest;
         while (kept > 0 && !(row.has(kept) && transactions.is(kept, State.DONE))) {
             kept--;
@@ -339,11 +342,8 @@ public final class VersionedTables {
     private int allVersions() {
         int all = 0;
         for (int k = 0; k < TABLES; k++) {
-            Table table = tables[k];
-            if (table != null) {
-                for (int row = 0; row < table.made; row++) {
-                    all += table.rows[row].size();
-                }
+            if (tables[k] != null) {
+                all += tables[k].versionsThere();
             }
         }
         return all;
@@ -418,6 +418,22 @@ public final class VersionedTables {
             rows[made].write(t, values, false);
             made++;
             return made - 1;
+        }
+
+        private int dropAllOf(int writer) {
+            int gone = 0;
+            for (int row = 0; row < made; row++) {
+                gone += rows[row].drop(writer);
+            }
+            return gone;
+        }
+
+        private int versionsThere() {
+            int there = 0;
+            for (int row = 0; row < made; row++) {
+                there += rows[row].size();
+            }
+            return there;
         }
 
         private void markRead(int t) {

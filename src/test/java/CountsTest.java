@@ -9,6 +9,7 @@ public final class CountsTest {
         vacuumLeavesOpenVersions();
         vacuumGoesThroughAllTables();
         vacuumKeepsGoneOnes();
+        limitsAreCounted();
         versionsRefuses();
         countTellsAll();
         countElse();
@@ -38,8 +39,26 @@ public final class CountsTest {
         Due.answer("vacuum again", x.vacuum(), 0);
         x.begin();
         Due.answer("the newest is seen", x.select(6, 0), 1);
-        VersionedTables y = rowWithVersions(40);
-        Due.answer("all 40", y.vacuum(), 39);
+    }
+
+    private static void limitsAreCounted() {
+        VersionedTables x = rowWithVersions(40);
+        Due.answer("40 versions of a row", x.versions(0, 0), 40);
+        Due.answer("count(6)", x.count(6), 40);
+        Due.answer("vacuum", x.vacuum(), 39);
+        VersionedTables y = new VersionedTables();
+        y.create(1, 1);
+        y.begin();
+        for (int row = 0; row < 24; row++) {
+            y.insert(1, 1, row, 0, 0, 0);
+        }
+        y.commit(1);
+        y.begin();
+        Due.answer("24 rows written", y.update(2, 1), 24);
+        y.commit(2);
+        Due.answer("versions of 24 rows", y.count(6), 48);
+        Due.answer("versions of the last row", y.versions(1, 23), 2);
+        Due.answer("vacuum of 24 rows", y.vacuum(), 24);
     }
 
     private static void vacuumKeepsWhatAnOpenOneSees() {
@@ -129,7 +148,7 @@ public final class CountsTest {
     private static void countTellsAll() {
         VersionedTables x = rowWithVersions(3);
         x.create(2, 2);
-        for (int t = 4; t <= 8; t++) {
+        for (int t = 4; t <= 9; t++) {
             x.begin();
         }
         x.insert(8, 2, 0, 0, 0, 0);
@@ -140,13 +159,13 @@ public final class CountsTest {
         Due.setting(x, "a=1");
         Due.setting(x, "b=1");
         Due.type(x, "abcde");
-        int[] due = {8, 3, 3, 1, 5, 2, 5, 1, 1, 0, 2};
+        int[] due = {9, 4, 3, 1, 5, 2, 5, 1, 1, 0, 2};
         for (int what = 0; what < due.length; what++) {
             Due.answer("count(" + what + ")", x.count(what), due[what]);
         }
         Due.refuses("TOO LATE", UnsupportedOperationException.class, () -> x.insert(6, 0, 0, 0, 0, 0));
         Due.answer("two broken by TOO LATE", x.count(7), 2);
-        Due.answer("two open", x.count(1), 2);
+        Due.answer("three open", x.count(1), 3);
     }
 
     private static void countElse() {
