@@ -7,6 +7,7 @@ public final class OrderTest {
         divisionInASettingBeforeTooLate();
         divisionInAConditionBeforeTooLate();
         bothSidesAreWorkedOut();
+        manyDivisionsLeaveNothingBehind();
         settingsOfAllRowsBeforeAnyIsWritten();
         settingsOnlyOfRowsThatHold();
         Due.finish();
@@ -74,6 +75,18 @@ public final class OrderTest {
             Due.where(x, condition);
             Due.refuses(condition, ArithmeticException.class, () -> x.select(2, 0));
         }
+    }
+
+    private static void manyDivisionsLeaveNothingBehind() {
+        VersionedTables x = rowsBy(1, 1);
+        x.create(1, 1);
+        x.insert(2, 1, 1, 0, 0, 0);
+        x.insert(2, 1, 2, 0, 0, 0);
+        Due.where(x, "a=1&1/a=1");
+        for (int i = 0; i < 60; i++) {
+            Due.refuses("row 0 divides by 0", ArithmeticException.class, () -> x.select(2, 0));
+        }
+        Due.answer("the same condition elsewhere", x.select(2, 1), 1);
     }
 
     private static void settingsOfAllRowsBeforeAnyIsWritten() {
