@@ -6,8 +6,14 @@ final class Due {
 
     private static int passed = 0;
     private static int failed = 0;
+    private static String sentence = "";
 
     private Due() {
+    }
+
+    /** The words of the document that the answers from now on are due by. */
+    static void sentence(String words) {
+        sentence = words;
     }
 
     static void answer(String what, long got, long want) {
@@ -20,6 +26,10 @@ final class Due {
 
     static void holds(String what, boolean got) {
         note(got, what, "false", "true");
+    }
+
+    static void same(String what, String got, String want) {
+        note(got.equals(want), what, got, want);
     }
 
     static void refuses(String what, Class<? extends RuntimeException> kind, Call call) {
@@ -67,5 +77,8 @@ final class Due {
         }
         failed++;
         System.out.println(what + " answered " + got + ", due is " + want);
+        if (!sentence.isEmpty()) {
+            System.out.println("    by: " + sentence);
+        }
     }
 }
